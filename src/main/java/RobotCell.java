@@ -270,7 +270,7 @@ public final class RobotCell {
         return registers.numberAt(firsts[at]) != 0 ? seconds[at] & 255 : 0;
     }
 
-    /** Dispatches by the ranges of the operations; all but the first two kinds may only let a fault come. */
+    /** Orders that begin blocks, and AGAIN, hand on faults that have come already; others' come here. */
     private int doOrder(int at, int depth) {
         int operation = operations[at];
         if (operation >= CALL && operation <= SCOPE) {
