@@ -1147,12 +1147,11 @@ public final class RobotCell {
                 System.arraycopy(from.values, first, values, onto, count);
                 return true;
             }
-            if (from == this) {
-                System.arraycopy(parts, first, parts, onto, count);
-                return true;
-            }
+            // Within one row all belong; from the far end on, none is written over before it is taken.
+            boolean fromEnd = from == this && onto > first;
             for (int k = 0; k < count; k++) {
-                if (!setPart(onto + k, from.partAt(first + k))) {
+                int step = fromEnd ? count - 1 - k : k;
+                if (!setPart(onto + step, from.partAt(first + step))) {
                     return false;
                 }
             }

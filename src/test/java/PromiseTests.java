@@ -224,6 +224,14 @@ public final class PromiseTests {
         isAsAtFirst("13", x);
     }
 
+    /** The 4000th thing may be made by any order that makes one, the 4001st by none. */
+    private static void theLastThing(int... maker) {
+        RobotCell x = Check.cell(1, 0, 0, 3998, 1, 1, 0, 0, 40, 0, 1, 4, 15, 0, 5, 0, 0, 0, 0, 0, 80, 1, 0, 0);
+        Check.same("13 3999 things", x.run(20000), 0);
+        Check.same("13 the 4000th by " + maker[0], Check.again(x, maker), 0);
+        Check.same("13 the 4001st by " + maker[0], Check.again(x, maker), Check.LIMIT);
+    }
+
     private static void livesAreNotReset() {
         RobotCell x = new RobotCell();
         // 16 rows and a grid a turn: 235 turns make 3995.
@@ -234,6 +242,10 @@ public final class PromiseTests {
         Check.same("13 nothing came of it", x.slot(0, 0), -1);
         Check.same("13 a grid of 4 fits", Check.again(x, 1, 0, 0, 4, 41, 0, 0, 0), 0);
         int[][] makers = {{40, 2, 2, 0}, {80, 2, 0, 0}, {80, 2, 0, 1}, {88, 2, 0, 0}, {88, 2, 0, 3}, {41, 2, 2, 2}};
+        for (int[] maker : makers) {
+            theLastThing(maker);
+        }
+        theLastThing(44, 2, 0, 0);
         for (int[] maker : makers) {
             Check.same("13 one more", Check.again(x, maker), Check.LIMIT);
         }
