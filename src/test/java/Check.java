@@ -16,6 +16,8 @@ final class Check {
 
     private static int done = 0;
     private static int wrong = 0;
+    private static String sentence = "";
+    private static int doneBefore = -1;
 
     private Check() {
     }
@@ -25,8 +27,22 @@ final class Check {
         if (got != want) {
             wrong++;
             if (wrong <= 50) {
-                System.out.println(what + " answered " + got + ", due is " + want);
+                System.out.println(sentence + what + " answered " + got + ", due is " + want);
             }
+        }
+    }
+
+    /** What is looked at from here on is about this sentence; one without anything looked at is wrong. */
+    static void about(String text) {
+        endSentence();
+        sentence = "\"" + text + "\" ";
+        doneBefore = done;
+    }
+
+    private static void endSentence() {
+        if (done == doneBefore) {
+            wrong++;
+            System.out.println(sentence + "has no test");
         }
     }
 
@@ -53,6 +69,7 @@ final class Check {
     }
 
     static void end() {
+        endSentence();
         System.out.println(done + " answers looked at, " + wrong + " not as due");
         if (wrong != 0 || done == 0) {
             System.exit(1);
