@@ -208,12 +208,13 @@ public final class CallBoundsTests extends Bounds {
         Check.same("in an inner block", x.fault(0), 3);
         Check.same("STOPPED", x.run(2), Check.STOPPED);
         Check.same("STOPPED has none", x.fault(0), -1);
-        ends(x, 0, TRY, 2, 2, 0, END, 0, 0, 0, RAISE, 0, 0, 0);
-        Check.same("0: NONE without such a fault: one that was caught", x.fault(0), -1);
-        ends(x, 0, LOG, 0, 0, 0);
-        Check.same("0: NONE without such a fault", x.fault(0), -1);
         ends(x, Check.ZERO, TRY, 2, 3, 0, DIV, 0, 0, 0, END, 0, 0, 0, RAISE, 0, 0, 0);
         Check.same("one behind a caught one", x.fault(0), 1);
+        sentence("0: NONE without such a fault.");
+        ends(x, 0, TRY, 2, 2, 0, END, 0, 0, 0, RAISE, 0, 0, 0);
+        Check.same("one that was caught", x.fault(0), -1);
+        ends(x, 0, LOG, 0, 0, 0);
+        Check.same("none at all", x.fault(0), -1);
     }
 
     private static void faultCounts() {

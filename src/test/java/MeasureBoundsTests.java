@@ -160,6 +160,11 @@ public final class MeasureBoundsTests extends Bounds {
         gives(MREM, GREATEST, 3, 2);
         gives(MREM, NORMAL, 3 * TINIEST, TINIEST);
         gives(MREM, 1, 1 + 0x1p-52, 1);
+        gives(MREM, 2, 2, 0.0);
+        gives(MREM, -2, 2, -0.0);
+        gives(MREM, TINIEST, TINIEST, 0.0);
+        gives(MREM, 1e20, 7, 2);
+        gives(MREM, -0x1p200, 7, -4);
     }
 
     private static void one(int which, double of, double want) {
@@ -353,6 +358,8 @@ public final class MeasureBoundsTests extends Bounds {
         one(11, 0x1p-149, 0x1p-149);
         one(11, 0x1p-150, 0.0);
         one(11, -0x1p-150, -0.0);
+        one(11, 0x1.8p-151, 0.0);
+        one(11, -0x1.8p-152, -0.0);
         one(11, 0x1.0000000000001p-150, 0x1p-149);
         one(11, 0x1.8p-149, 0x1p-148);
         one(11, 0x1.ffffffp-127, 0x1p-126);
@@ -491,6 +498,8 @@ public final class MeasureBoundsTests extends Bounds {
         sentence("5 m b * 2^k, rounded once");
         scaled(1, -1074, TINIEST);
         scaled(1, -1075, 0.0);
+        scaled(-1.5, -1076, -0.0);
+        scaled(1.5, -1077, 0.0);
         scaled(1 + 0x1p-52, -1075, TINIEST);
         scaled(1.5, -1074, 2 * TINIEST);
         scaled(2.5, -1074, 2 * TINIEST);

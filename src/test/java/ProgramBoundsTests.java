@@ -533,6 +533,11 @@ public final class ProgramBoundsTests extends Bounds {
         ends(z, 6, TRY, 3, 5, 0, TRY, 4, 7, 0, TRY, 4, 7, 0, AGAIN, 0, 0, 0, END, 0, 0, 0, RAISE, 1, 0, 0, END, 0, 0, 0,
                 AGAIN, 0, 0, 0);
         Check.same("as often as it is, its place stays", z.fault(0), 5);
+        // While one that is not KEPT is on its way, from order 6, the KEPT one of order 3 goes in its place.
+        RobotCell w = numbers(6, 7);
+        ends(w, 6, TRY, 3, 3, 0, SCOPE, 0, 5, 8, END, 0, 0, 0, RAISE, 1, 0, 0, END, 0, 0, 0, LOG, 1, 0, 0, RAISE, 2, 0, 0,
+                END, 0, 0, 0, AGAIN, 0, 0, 0);
+        Check.same("with its place, not another's", w.fault(0), 3);
     }
 
     private static void againWithoutOne() {
