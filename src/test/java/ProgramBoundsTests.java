@@ -585,11 +585,14 @@ public final class ProgramBoundsTests extends Bounds {
         for (int operation = 0; operation < 128; operation++) {
             if (!known[operation]) {
                 refuses(after(ALL_KINDS), Check.KIND, operation, 1, 4, 4);
+                // With EMPTY slots it is KIND, too: such an order uses none of them.
+                refuses(new RobotCell(), Check.KIND, operation, 1, 4, 4);
             }
         }
         for (int operation : new int[] {-1, -2, -64, -128, 128, 255, 256, 257, 256 + 20, 65536 + 1, Integer.MIN_VALUE,
             Integer.MIN_VALUE + 20, Integer.MAX_VALUE}) {
             refuses(after(ALL_KINDS), Check.KIND, operation, 1, 4, 4);
+            refuses(new RobotCell(), Check.KIND, operation, 1, 4, 4);
         }
     }
 }
