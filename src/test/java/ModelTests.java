@@ -62,7 +62,8 @@ public final class ModelTests {
     private void equip() {
         for (int r = 0; r < 16; r++) {
             order(1, r, 0, any(7));
-            order(24, r, any(2000) - 1000, any(60) - 2);
+            boolean lost = any(8) == 0;
+            order(24, r, lost ? 0 : any(2000) - 1000, lost ? 0 : any(60) - 2);
         }
         for (int kind = 0; kind < 10; kind++) {
             order(40, kind, any(16), kind);
